@@ -1203,10 +1203,10 @@ public final class StoneBacks {
 
         int soonestTo(int target) {
             int best = NONE;
-            int least = Integer.MAX_VALUE;
+            int least = 0;
             for (int p = 0; p < people.count; p++) {
                 int takes = isBowed(p) ? NONE : hoursOfWay(p, target);
-                if (takes != NONE && takes < least) {
+                if (takes != NONE && (best == NONE || takes < least)) {
                     least = takes;
                     best = p;
                 }
@@ -1216,10 +1216,10 @@ public final class StoneBacks {
 
         int meetingPlace() {
             int best = NONE;
-            int least = Integer.MAX_VALUE;
+            int least = 0;
             for (int place = 0; place < PLACES && people.count > 0; place++) {
                 int takes = hoursOfAll(place);
-                if (takes != NONE && takes < least) {
+                if (takes != NONE && (best == NONE || takes < least)) {
                     least = takes;
                     best = place;
                 }
