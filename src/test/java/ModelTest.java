@@ -29,7 +29,9 @@ public final class ModelTest {
 
     private void run(int seed) {
         int calls = 0;
-        if (random.nextInt(8) > 0) {
+        if (random.nextInt(4) == 0) {
+            tellFullValley();
+        } else if (random.nextInt(8) > 0) {
             tell(valleyText(true), true);
         }
         if (random.nextInt(3) > 0) {
@@ -57,6 +59,22 @@ public final class ModelTest {
                 return;
             default: ask();
         }
+    }
+
+    private void tellFullValley() {
+        StringBuilder people = new StringBuilder("limit " + number(30, 99));
+        for (int p = 0; p < 6; p++) {
+            people.append(";person ").append(number(0, 99)).append(" back ").append(number(20, 60));
+            people.append(" at ").append(number(4, 6)).append(" goal ").append(number(0, 11));
+        }
+        tell(people.toString(), true);
+        StringBuilder stones = new StringBuilder("porch 5");
+        for (int s = 0; s < 10; s++) {
+            int debtor = random.nextInt(6);
+            stones.append(";stone ").append(number(1, 40)).append(" of ").append(debtor).append(" to ");
+            stones.append((debtor + 1 + random.nextInt(5)) % 6);
+        }
+        tell(stones.toString(), true);
     }
 
     // ---- one call on both

@@ -43,6 +43,13 @@ public final class StateTest {
         CHECK.due("and due", x.person(1, 9), 7);
         x.pass(3, 0);
         CHECK.due("borne for another", x.person(0, 10), 8);
+        x.lift(0, 1);
+        x.pass(3, 1);
+        CHECK.due("borne for another", x.person(1, 10), 1);
+        x.pass(3, 0);
+        x.pass(0, 0);
+        x.split(3);
+        CHECK.due("two borne for another", x.person(0, 10), 8 + 16);
     }
 
     private static void bowed() {

@@ -12,6 +12,7 @@ public final class TextsTest {
         lawTold();
         lawWrong();
         lawDepth();
+        lawOfFullTape();
         faults();
         CHECK.end();
     }
@@ -95,6 +96,18 @@ public final class TextsTest {
         wrongValley("", "limit 5 limit 6", 8);
         wrongValley("", "limit", 5);
         wrongValley("", "limits 5", 0);
+        wrongValley("", "limitz 5", 0);
+        wrongValley("", "limita 5", 0);
+        wrongValley("", "limit` 5", 5);
+        wrongValley("", "limit{5", 5);
+        wrongValley("", "limit /5", 6);
+        wrongValley("", "limit 5:", 7);
+        wrongValley("", "limit 0", 6);
+        wrongValley("", "limit 100", 6);
+        wrongValley("", "person 1 back 1 at 12", 19);
+        wrongValley("", "person 1 back 1 at 1 goal 12", 26);
+        wrongValley("", ";".repeat(400), 0);
+        wrongValley("", " ".repeat(399) + "x", 399);
         wrongValley("", "Limit 5", 0);
         wrongValley("", "limiT 5", 0);
         wrongValley("", "limit five", 6);
@@ -310,6 +323,22 @@ public final class TextsTest {
         wrongLaw("tire 1 if there or (((((not(there))))))", 10 + 9 + 5 + 3);
         wrongLaw("tire 1 if ((((((there and not light))))))", 10 + 6 + 10);
         wrongLaw("tire 1 if (((((((", 16);
+    }
+
+    private static void lawOfFullTape() {
+        StoneBacks x = Check.told("person 5 back 20 at 3");
+        String sum = "1+".repeat(192) + "1<193";
+        CHECK.due("400 bytes", ("tire 9 if " + sum + " ").length(), 400);
+        CHECK.due("a full tape", Check.law(x, "tire 9 if " + sum + " "), 1);
+        CHECK.due("193 is not below 193", x.does(0, 0), 0);
+        CHECK.due("a full tape", Check.law(x, "tire 9 if " + "1+".repeat(192) + "1<194 "), 1);
+        CHECK.due("193 is below 194", x.does(0, 0), 9);
+        wrongLaw("tire 9 if " + "1+".repeat(195), 400);
+        wrongLaw("tire 9 if 1<" + "1+".repeat(193) + "1)", 399);
+        x.image();
+        Check.law(x, "");
+        x.back();
+        CHECK.due("it comes back whole", x.does(0, 0), 9);
     }
 
     private static void faults() {
