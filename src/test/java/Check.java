@@ -1,3 +1,7 @@
+import java.io.IOException;
+import java.nio.file.Files;
+import java.nio.file.Path;
+
 /** What the tests share: comparing answers, expecting exceptions, telling texts. */
 final class Check {
     interface Call {
@@ -6,12 +10,49 @@ final class Check {
 
     private int wrong = 0;
     private int done = 0;
+    private String sentence = "";
+    private String document = null;
+
+    /** The document's words that the next checks are of: a test of words that it does not have is wrong itself. */
+    void of(String words) {
+        if (document == null) {
+            document = oneLine(readDocument());
+        }
+        sentence = "[" + words + "] ";
+        done++;
+        if (!document.contains(oneLine(words))) {
+            tellWrong("the document does not have these words");
+        }
+    }
+
+    private static String readDocument() {
+        try {
+            return Files.readString(Path.of("../shared/DOC.md"));
+        } catch (IOException e) {
+            return "";
+        }
+    }
+
+    private static String oneLine(String text) {
+        return text.replaceAll("\\s+", " ");
+    }
+
+    private void tellWrong(String what) {
+        wrong++;
+        System.out.println(sentence + what);
+    }
 
     void due(String what, long got, long want) {
         done++;
         if (got != want) {
-            wrong++;
-            System.out.println(what + " answered " + got + ", due is " + want);
+            tellWrong(what + " answered " + got + ", due is " + want);
+        }
+    }
+
+    void due(String what, String got, String want) {
+        done++;
+        if (!got.equals(want)) {
+            tellWrong(what + " is\n  " + got + "\ndue is\n  " + want);
         }
     }
 
@@ -31,8 +72,7 @@ final class Check {
             }
             got = "threw " + e;
         }
-        wrong++;
-        System.out.println(what + " " + got + ", due is " + want.getSimpleName());
+        tellWrong(what + " " + got + ", due is " + want.getSimpleName());
     }
 
     void noBounds(String what, Call call) {
