@@ -52,6 +52,16 @@ public final class EdgeDebtsTest {
         paysOf(x, 7, 18);
         x.pay(0);
         paysOf(x, 6, 13);
+        // whose STONES are not the first
+        StoneBacks later = Check.told("person 0 back 60 at 0;person 1 back 60 at 0;stone 5 of 0 to 1;stone 5 of 1 to 0;stone 1 of 1 to 0");
+        CHECK.due("1 of 1", later.pays(1, false), 4);
+        later.pay(2);
+        CHECK.due("5 of 0", later.pays(1, false), 0);
+        later.lend(0, 1, 1);
+        CHECK.due("1 of 1 that is new", later.pays(1, false), 8);
+        StoneBacks heavy = Check.told("person 0 back 60 at 0;person 1 back 60 at 0;stone 5 of 0 to 1;stone 5 of 1 to 0");
+        CHECK.due("5 of 1", heavy.pays(1, false), 0);
+        CHECK.due("5 of 1: nothing", heavy.pays(1, true), 0);
         CHECK.due("the LENDER owes nothing", x.pays(1, false), 0);
         CHECK.due("though it wears one", x.pays(1, true), 0);
         CHECK.of("IndexOutOfBoundsException: there is no such PERSON, STONE, PLACE.");
@@ -283,8 +293,16 @@ public final class EdgeDebtsTest {
         }
         CHECK.due("eleven cases", weigh(Check.told(ten.toString())), 1);
         CHECK.due("one side of them", weigh(Check.told(ten.toString()), 0, 1, 0), 1);
-        // three PEOPLE of 8, 8 and 7: by 0 and 1 the cases 0, 1, (2 and none) are parted 1 2 1; by 0 and 2: 1 0 3; by 1 and 2: 1 0 3
-        CHECK.due("the best, not the first alone", weigh(Check.told("person 0 back 9 at 0;person 0 back 9 at 0;person 0 back 9 at 0;"
-                + "stone 7 of 0 to 1;stone 8 of 1 to 0;stone 8 of 2 to 0")), 12);
+        String three = "person 0 back 9 at 0;person 0 back 9 at 0;person 0 back 9 at 0;";
+        // cases 0, 1, 2 and none: by 0 and 1, as by 0 and 2, three are on one side; by 1 and 2: 1 2 1
+        CHECK.due("not the first", weigh(Check.told(three + "stone 7 of 0 to 1;stone 8 of 1 to 0;stone 8 of 2 to 0")), 12);
+        // by 0 and 1 all three cases are right, by the others left
+        CHECK.due("nothing parts: the least", weigh(Check.told(three + "stone 10 of 0 to 1;stone 40 of 1 to 0")), 1);
+        // by 0 and 1: 1 is neither, 0 and none are right; by 1 and 2 all three are parted
+        CHECK.due("each STONE is a case", weigh(Check.told(three + "stone 1 of 2 to 0;stone 1 of 1 to 0")), 12);
+        // by 0 and 1: 1 is neither, 0 and none are left; by 0 and 2 all three are parted
+        CHECK.due("the left part counts whole", weigh(Check.told(three + "stone 1 of 2 to 1;stone 1 of 0 to 1")), 2);
+        // nobody else can be weighed: against nothing the STONE of 1 would be told from the others
+        CHECK.due("only PEOPLE that there are", weigh(Check.told(two + "stone 1 of 0 to 1;stone 40 of 1 to 0;stone 40 of 1 to 0")), 1);
     }
 }

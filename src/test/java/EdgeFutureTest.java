@@ -45,6 +45,12 @@ public final class EdgeFutureTest {
         StoneBacks u = Check.told(two + "stone 21 of 0 to 1;hour 23");
         Check.law(u, "earn 1");
         CHECK.due("21 by 1, but it owes 22", u.first(0), 2);
+        // nobody gets HURT ahead: it comes to its GOAL, and earns there
+        StoneBacks walks = Check.told("person 0 back 60 at 0 goal 2;person 0 back 60 at 0;stone 21 of 0 to 1;hour 1");
+        Check.law(walks, "earn 10;hurt 99;hurt 1");
+        CHECK.due("2 on, and 3 of 10", walks.first(0), 5);
+        walks.hours(1);
+        CHECK.due("who is HURT now does not", walks.first(0), -1);
         CHECK.of("IndexOutOfBoundsException: there is no such PERSON, STONE, PLACE.");
         for (int bad : new int[] {-1, 2, MIN, MAX}) {
             CHECK.noBounds("first(" + bad + ")", () -> x.first(bad));
@@ -256,9 +262,21 @@ public final class EdgeFutureTest {
         seedsOfSpan();
     }
 
-    /** By many LAWS, so that each of the six SEEDS makes an end of some span. */
+    /** Each row tells PEOPLE, HOURS and a hurt by which one SEED (the sixth first) alone makes an end of the span. */
     private static void seedsOfSpan() {
         CHECK.of("SPAN: the fewest and the most who are HURT then from SEED 1, 2, .. 6.");
+        int[][] alone = {{1, 7, 11, 0, 1}, {1, 1, 48, 0, 1}, {1, 3, 17, 0, 1}, {1, 2, 8, 0, 1}, {1, 1, 9, 0, 1}, {2, 2, 16, 0, 2}};
+        for (int[] one : alone) {
+            StoneBacks x = Check.told("person 3 back 60 at 4" + ";person 3 back 60 at 4".repeat(one[0] - 1));
+            Check.law(x, "hurt " + one[2]);
+            spanOf(x, one[1], one[3], one[4]);
+        }
+        // SEED 7 alone would hurt nobody by 60, and somebody by 7
+        StoneBacks seventh = Check.told("person 3 back 60 at 4");
+        Check.law(seventh, "hurt 60");
+        spanOf(seventh, 1, 1, 1);
+        Check.law(seventh, "hurt 7");
+        spanOf(seventh, 2, 0, 0);
         for (int hurts = 1; hurts <= 99; hurts += 7) {
             StoneBacks x = Check.told("person 3 back 60 at 4" + ";person 3 back 60 at 4".repeat(5));
             Check.law(x, "hurt " + hurts);

@@ -308,6 +308,7 @@ public final class EdgeMemoryTest {
         CHECK.due("all but what is remembered", got.replace(" 0 seed", " 1 seed"), due);
         CHECK.due("back again", x.back(), true);
         CHECK.due("all again", Sight.ofNow(x), got);
+        lawOfImage();
         CHECK.of("THE IMAGE (one) of all may be kept, and gone back to");
         x.pay(0);
         x.image();
@@ -321,6 +322,20 @@ public final class EdgeMemoryTest {
         x.hours(100);
         x.back();
         CHECK.due("HOUR", x.count(4), 22);
+    }
+
+    private static void lawOfImage() {
+        StoneBacks x = some();
+        Check.law(x, "tire 7;tire 9 if who<1;earn 5 if not light and who<2;hurt 6 if load>6+0 or there;hurt 1 if light");
+        String due = Sight.ofNow(x);
+        x.image();
+        Check.law(x, "tire 1 if 1<0+0;earn 1 if who>0 and (there or light);hurt 3 if not there;hurt 4 if who>1 or light");
+        x.back();
+        CHECK.due("THE LAW, LINE by LINE", Sight.ofNow(x), due);
+        Check.law(x, "hurt 2 if place>0+0+0+0+0+0");
+        Check.law(x, "earn 2 if place>0+0+0+0+0+0 and not there");
+        x.back();
+        CHECK.due("THE LAW again", Sight.ofNow(x), due);
     }
 
     private static void imageOfEmpty() {

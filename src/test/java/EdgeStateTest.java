@@ -208,7 +208,10 @@ public final class EdgeStateTest {
         holds(two, "not there or there", 1, 1);
         holds(two, "not (there or there)", 0, 1);
         holds(two, "not there and there", 0, 0);
+        holds(two, "not not there", 1, 0);
         holds(two, "not not not there", 0, 1);
+        holds(two, "not not not not there", 1, 0);
+        holds(two, "not(not there and light)or there and light", 1, 0);
     }
 
     private static void whatOneDoes() {

@@ -398,6 +398,13 @@ public final class EdgeTextsTest {
             CHECK.due("law", Check.law(x, "tire " + n), 1);
         }
         CHECK.due("the latest", x.does(1, 0), 13);
+        String sum = "1+".repeat(180);
+        for (int n = 1; n < 9; n++) {
+            Check.law(x, "tire " + n + " if " + sum + "1<181");
+            CHECK.due("a long one, not by 181", x.does(0, 0), 0);
+            Check.law(x, "tire " + n + " if " + sum + "1<182");
+            CHECK.due("a long one, by 181", x.does(0, 0), n);
+        }
     }
 
     private static void lawNumbers() {
@@ -568,6 +575,22 @@ public final class EdgeTextsTest {
         CHECK.due("all behind a wrong law", Sight.ofNow(x), due);
         CHECK.noArgument("wrong at its end", () -> Check.law(x, "tire 5 if load>999;"));
         CHECK.due("all behind a wrong law", Sight.ofNow(x), due);
+        // nor anything of what stood open in it
+        String[] open = {"tire 1 if ((((((", "tire 1 if not not not not not not x", "tire 1 if (there or there and not x",
+            "tire 1 if there or there and x", "tire 1 if ((((((there)))))) and (x", "tire 1 if 1+1+1+1<x"};
+        for (String wrong : open) {
+            StoneBacks y = Check.told("person 3 back 60 at 4;person 3 back 60 at 4 goal 5");
+            CHECK.noArgument(wrong, () -> Check.law(y, wrong));
+            CHECK.due("a right one behind '" + wrong + "'", Check.law(y, "tire 1 if ((((((there))))));earn 1 if not there"), 2);
+            CHECK.due("there", y.does(0, 0) * 10 + y.does(0, 1), 10);
+            CHECK.due("not there", y.does(1, 0) * 10 + y.does(1, 1), 1);
+            CHECK.noArgument(wrong, () -> Check.law(y, wrong));
+            CHECK.noArgument("a wrong one", () -> Check.law(y, "tire 1 if (there"));
+            CHECK.due("its fault", y.fault(), 16);
+            CHECK.noArgument(wrong, () -> Check.law(y, wrong));
+            CHECK.noArgument("a wrong one", () -> Check.law(y, "tire 1 if there)"));
+            CHECK.due("its fault", y.fault(), 15);
+        }
     }
 
     private static void tapesUsedUp() {

@@ -183,6 +183,14 @@ public final class EdgeWaysTest {
             CHECK.due("the " + k + "-th", x.share(5, k), takers[k]);
         }
         CHECK.due("at 4", x.share(4, 0), 0);
+        CHECK.due("fewer STONES behind more: at 4", x.share(4, -1), 9);
+        // of three of 5 two go to one of the two: the first two are the first way
+        StoneBacks like = wearing(60, 40, 5, 5, 5);
+        CHECK.due("the greatest", like.share(0, -1), 10);
+        int[] first = {0, 0, 1};
+        for (int k = 0; k < 3; k++) {
+            CHECK.due("the " + k + "-th of like ones", like.share(0, k), first[k]);
+        }
         CHECK.of("SHARE: the greatest LOAD (k NONE), or whom the k-th STONE goes to; NONE (also, if there is no such one).");
         for (int bad : new int[] {4, 10, -2, MIN, MAX}) {
             CHECK.due("the " + bad + "-th", x.share(5, bad), -1);
@@ -192,6 +200,14 @@ public final class EdgeWaysTest {
         CHECK.due("without STONES", Check.told("person 0 back 1 at 5").share(5, 0), -1);
         CHECK.due("at 0", x.share(0, -1), -1);
         CHECK.due("at 11", x.share(11, -1), -1);
+        // three PEOPLE and many STONES first, then two and one
+        StoneBacks y = Check.told("person 0 back 1 at 5;person 0 back 1 at 5;person 0 back 1 at 5;person 0 back 1 at 6;"
+                + "person 0 back 1 at 6;stone 40 of 0 to 1;stone 39 of 1 to 0;stone 38 of 2 to 0;stone 37 of 0 to 1;stone 2 of 3 to 0");
+        CHECK.due("of 40, 39, 38 and 37", y.share(5, -1), 75);
+        CHECK.due("of 2", y.share(6, -1), 2);
+        CHECK.due("to the first of the two", y.share(6, 0), 3);
+        CHECK.due("no second one", y.share(6, 1), -1);
+        CHECK.due("again", y.share(5, -1), 75);
     }
 
     // ---- promise 25
@@ -217,6 +233,17 @@ public final class EdgeWaysTest {
         for (int[] limit : limits) {
             Check.valley(x, "limit " + limit[0]);
             CHECK.due("six of 5 by LIMIT " + limit[0], x.goes(), limit[1]);
+        }
+        int[] unlike = {6, 6, 4, 4, 5, 5};
+        StringBuilder loads = new StringBuilder(six);
+        for (int p = 0; p < 6; p++) {
+            loads.append(";stone ").append(unlike[p]).append(" of ").append(p).append(" to ").append((p + 1) % 6);
+        }
+        StoneBacks y = Check.told(loads.toString());
+        int[][] goes = {{30, 1}, {29, 2}, {15, 2}, {14, 3}, {10, 3}, {9, 4}, {8, 5}, {7, 6}, {6, 6}, {5, -1}};
+        for (int[] limit : goes) {
+            Check.valley(y, "limit " + limit[0]);
+            CHECK.due("6 6 4 4 5 5 by LIMIT " + limit[0], y.goes(), limit[1]);
         }
     }
 
@@ -255,6 +282,10 @@ public final class EdgeWaysTest {
         StoneBacks x = Check.told("person 0 back 1 at 0;person 90 back 1 at 11;porch 0;porch 11;stone 5 of 0 to 1;"
                 + "stone 2 of 1 to 0;stone 3 of 1 to 0;stone 1 of 1 to 0");
         CHECK.due("all are worn", x.heap(), -1);
+        x.lay(3);
+        CHECK.due("one of 1", x.heap(), 11);
+        x.lift(3, 1);
+        CHECK.due("all are worn again", x.heap(), -1);
         x.lay(1);
         CHECK.due("at 11", x.heap(), 11);
         x.lay(0);
