@@ -516,9 +516,14 @@ public final class EdgeTextsTest {
         wrong("?", 0);
         wrong("hour 1;limit 0;hour 9999", 13);
         wrong(" ".repeat(399) + "?", 399);
+        wrong(";".repeat(400), 0);
+        wrong("hour" + "1 ".repeat(198), 6);
+        wrong("hour 1" + ";".repeat(394), 7);
         wrongLaw("tire 1 if there or lights", 19);
         wrongLaw("tire 100;earn 100", 5);
         wrongLaw(" ".repeat(399) + ")", 399);
+        wrongLaw("(".repeat(400), 0);
+        wrongLaw("tire 1 if 1<" + "1+".repeat(193) + "1)", 399);
     }
 
     private static void moreMustCome() {
@@ -555,6 +560,7 @@ public final class EdgeTextsTest {
         wrongLaw("tire 1 if (there ", 17);
         wrongLaw("tire 1 if load", 14);
         wrongLaw("tire 1 if load<" + " ".repeat(385), 400);
+        wrongLaw("tire 1 if " + "1+".repeat(195), 400);
     }
 
     private static void nothingStays() {

@@ -7,6 +7,7 @@ public final class FullTest {
         questions();
         ahead();
         acts();
+        calls();
         CHECK.end();
     }
 
@@ -47,7 +48,18 @@ public final class FullTest {
     }
 
     private static void questions() {
-        CHECK.of("Sets are bits");
+        CHECK.of("Sets are bits; of none they count for nothing.");
+        StoneBacks none = Check.told("person 0 back 1 at 0;person 0 back 1 at 0");
+        CHECK.due("STONES worn", none.person(0, 7), 0);
+        CHECK.due("STONES borne", none.person(0, 10), 0);
+        CHECK.due("to put off", none.shed(0), 0);
+        CHECK.due("to pay", none.pays(0, false), 0);
+        CHECK.due("how much", none.pays(0, true), 0);
+        CHECK.due("hollow ones", none.scales(false), 0);
+        CHECK.due("who is HURT", none.trial(0, true), 0);
+        CHECK.due("STONES set down", none.place(0, 3), 0);
+        CHECK.due("WEIGHTS", none.count(10), 0);
+        CHECK.due("PURSES", none.count(6), 0);
         StoneBacks x = full();
         CHECK.due("soonest", x.soonest(0), 0);
         CHECK.due("meet", x.meet(), 5);
@@ -115,5 +127,36 @@ public final class FullTest {
         CHECK.due("nobody wears any", x.count(7), 0);
         CHECK.due("the greatest share of none", x.share(5, -1), 0);
         CHECK.due("pairs of six", x.pairs(), 15);
+    }
+
+    private static void calls() {
+        CHECK.of("An object is used for at most 512 calls after it has been made");
+        StoneBacks hours = new StoneBacks();
+        for (int n = 1; n <= 511; n++) {
+            hours.hours(100);
+        }
+        CHECK.due("the 512th call", hours.count(4), 9999);
+        StoneBacks texts = new StoneBacks();
+        for (int n = 1; n <= 511; n++) {
+            texts.law();
+        }
+        CHECK.due("the 512th call", texts.count(3), 0);
+        StoneBacks kept = new StoneBacks();
+        kept.seed(7);
+        for (int n = 1; n <= 255; n++) {
+            kept.image();
+            kept.back();
+        }
+        CHECK.due("the 512th call", kept.seed(1), 7);
+        StoneBacks full = full();
+        // 24 calls made it: 18 times feed, and end behind each of three texts, that were read
+        for (int n = 25; n <= 507; n += 2) {
+            full.lay(0);
+            full.lift(0, 0);
+        }
+        CHECK.due("the 509th call", full.count(12), 60);
+        CHECK.due("the 510th call", full.count(13), 12);
+        CHECK.due("the 511th call", full.undo(), true);
+        CHECK.due("the 512th call", full.stone(0, 3), 1);
     }
 }
